@@ -1,0 +1,45 @@
+/** Counts the answers that are not due, prints them, and ends the test with exit code 1 if there were any. */
+final class Check {
+    private static int asked = 0;
+    private static int wrong = 0;
+
+    private Check() {
+    }
+
+    static void due(String call, long want, long got) {
+        asked++;
+        if (got != want) {
+            wrong++;
+            System.out.println(call + " answered " + got + ", due is " + want);
+        }
+    }
+
+    static boolean failed() {
+        return wrong > 0;
+    }
+
+    static void end() {
+        System.out.println(asked + " answers, " + wrong + " of them wrong");
+        if (wrong > 0) {
+            System.exit(1);
+        }
+    }
+
+    /** Packs up to 8 characters as put() wants them. */
+    static long packed(String text) {
+        long characters = 0;
+        for (int i = 0; i < text.length(); i++) {
+            characters = characters << 8 | text.charAt(i);
+        }
+        return characters;
+    }
+
+    /** Puts a text of any length on the pad, and returns the answer of the last put(). */
+    static int putAll(TwoLives x, String text) {
+        int answer = 0;
+        for (int i = 0; i < text.length(); i += 8) {
+            answer = x.put(packed(text.substring(i, Math.min(i + 8, text.length()))));
+        }
+        return answer;
+    }
+}

@@ -1,0 +1,220 @@
+import java.util.Random;
+
+/** Random runs of calls on TwoLives and on the model of the document: all answers have to be the same. */
+final class ModelTest {
+    private static final int RUNS = 400;
+    private static final int CALLS = 512;
+    private static final int[] ODD = {-1, -6, Integer.MIN_VALUE, Integer.MAX_VALUE, 31, 16, 17, 12, 14, 9, 2, -7};
+
+    private final Random random;
+    private final TwoLives real = new TwoLives();
+    private final Model model = new Model();
+    private final String run;
+    private final int withdrawals;
+
+    private ModelTest(int seed) {
+        random = new Random(seed);
+        run = "run " + seed + ": ";
+        withdrawals = random.nextInt(4);
+    }
+
+    public static void main(String[] args) {
+        for (int seed = 0; seed < RUNS && !Check.failed(); seed++) {
+            new ModelTest(seed).play();
+        }
+        Check.end();
+    }
+
+    private void play() {
+        for (int i = 0; i < CALLS && !Check.failed(); i++) {
+            if (random.nextInt(60) == 0) {
+                everything();
+            } else if (random.nextInt(3) == 0) {
+                look();
+            } else {
+                change();
+            }
+        }
+    }
+
+    private int number(int bound) {
+        return random.nextInt(25) == 0 ? ODD[random.nextInt(ODD.length)] : random.nextInt(bound);
+    }
+
+    private int someMatch() {
+        int opens = model.count(7);
+        return opens > 0 && random.nextInt(5) > 0 ? model.open(random.nextInt(opens)) : number(model.count(2));
+    }
+
+    private int somePlayer() {
+        return number(model.count(0));
+    }
+
+    private void same(String call, int want, int got) {
+        Check.due(run + call, want, got);
+    }
+
+    private void change() {
+        switch (random.nextInt(22)) {
+            case 0:
+                int players = number(15) + 2;
+                int cross = number(2);
+                if (random.nextInt(3) == 0) {
+                    same("setUp(" + players + ", " + cross + ")", model.setUp(players, cross), real.setUp(players, cross));
+                }
+                break;
+            case 1:
+                int rated = somePlayer();
+                int rating = random.nextInt(8) == 0 ? random.nextInt(12000) - 1000 : 1400 + 10 * random.nextInt(12);
+                same("rate(" + rated + ", " + rating + ")", model.rate(rated, rating), real.rate(rated, rating));
+                break;
+            case 2:
+            case 3:
+                if (random.nextInt(4) < withdrawals) {
+                    int player = somePlayer();
+                    same("withdraw(" + player + ")", model.withdraw(player), real.withdraw(player));
+                }
+                break;
+            case 4:
+            case 5:
+                text();
+                break;
+            case 6:
+                same("undo()", model.undo(), real.undo());
+                break;
+            case 7:
+                int slot = number(2);
+                same("save(" + slot + ")", model.save(slot), real.save(slot));
+                break;
+            case 8:
+                int source = number(2);
+                if (random.nextInt(3) == 0) {
+                    same("restore(" + source + ")", model.restore(source), real.restore(source));
+                }
+                break;
+            default:
+                int match = someMatch();
+                int side = number(2);
+                same("result(" + match + ", " + side + ")", model.result(match, side), real.result(match, side));
+                break;
+        }
+    }
+
+    private void text() {
+        if (random.nextInt(6) == 0) {
+            same("wipe()", model.wipe(), real.wipe());
+        }
+        long characters = random.nextInt(4) == 0 ? Check.packed(signs()) : Check.packed(act());
+        if (random.nextInt(10) == 0) {
+            characters ^= 1L << random.nextInt(64);
+        }
+        same("put(" + characters + "L)", model.put(characters), real.put(characters));
+        same("fault()", model.fault(), real.fault());
+        if (random.nextBoolean()) {
+            same("carryOut()", model.carryOut(), real.carryOut());
+        }
+    }
+
+    private String act() {
+        String comma = model.count(12) > 0 ? "," : "";
+        if (random.nextInt(4) == 0) {
+            return comma + "w" + random.nextInt(18);
+        }
+        int match = random.nextInt(8) == 0 ? random.nextInt(34) : Math.max(0, someMatch());
+        return comma + match % 1000 + (random.nextBoolean() ? "a" : "b");
+    }
+
+    private String signs() {
+        String signs = "0123456789abw,AW/:!~";
+        StringBuilder text = new StringBuilder();
+        for (int i = random.nextInt(9); i > 0; i--) {
+            text.append(signs.charAt(random.nextInt(signs.length())));
+        }
+        return text.toString();
+    }
+
+    private void look() {
+        switch (random.nextInt(8)) {
+            case 0:
+                match(number(model.count(2)), number(12));
+                break;
+            case 1:
+                player(somePlayer(), number(9));
+                break;
+            case 2:
+                open(number(9));
+                break;
+            case 3:
+                count(number(14));
+                break;
+            case 4:
+                same("forecast()", model.forecast(), real.forecast());
+                break;
+            case 5:
+                upsets(somePlayer());
+                break;
+            case 6:
+                sessions(number(8) + 1);
+                break;
+            default:
+                meet(somePlayer(), somePlayer());
+                break;
+        }
+    }
+
+    private void match(int match, int what) {
+        same("match(" + match + ", " + what + ")", model.match(match, what), real.match(match, what));
+    }
+
+    private void player(int player, int what) {
+        same("player(" + player + ", " + what + ")", model.player(player, what), real.player(player, what));
+    }
+
+    private void open(int index) {
+        same("open(" + index + ")", model.open(index), real.open(index));
+    }
+
+    private void count(int what) {
+        if (what != 10 && what != 11) {
+            same("count(" + what + ")", model.count(what), real.count(what));
+        } else if (model.resultsToCome(0) != Model.NONE) {
+            same("count(" + what + ")", model.resultsToCome(what - 10), real.count(what));
+        }
+    }
+
+    private void upsets(int player) {
+        same("upsets(" + player + ")", model.upsets(player), real.upsets(player));
+    }
+
+    private void sessions(int tables) {
+        same("sessions(" + tables + ")", model.sessions(tables), real.sessions(tables));
+    }
+
+    private void meet(int one, int other) {
+        same("meet(" + one + ", " + other + ")", model.meet(one, other), real.meet(one, other));
+    }
+
+    private void everything() {
+        for (int m = -1; m <= model.count(2); m++) {
+            for (int what = -1; what <= 12; what++) {
+                match(m, what);
+            }
+        }
+        for (int p = -1; p <= model.count(0); p++) {
+            for (int what = -1; what <= 9; what++) {
+                player(p, what);
+            }
+            upsets(p);
+            for (int other = -1; other <= model.count(0); other++) {
+                meet(p, other);
+            }
+        }
+        for (int i = -1; i <= 14; i++) {
+            open(i);
+            count(i);
+            sessions(i);
+        }
+        same("forecast()", model.forecast(), real.forecast());
+        same("fault()", model.fault(), real.fault());
+    }
+}
