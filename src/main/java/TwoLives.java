@@ -232,13 +232,13 @@ public final class TwoLives {
             return BAD_TEXT;
         }
         int done = 0;
-        int start = 0;
         int answer = 0;
-        while (start < pad.length && answer >= 0) {
-            int number = pad.numberOfAct(start);
-            answer = pad.isWithdrawal(start) ? withdraw(number) : result(number, pad.sideOfAct(start));
-            done += answer >= 0 ? 1 : 0;
-            start = pad.endOfAct(start) + 1;
+        for (int i = 0; i < pad.length && answer >= 0; i++) {
+            if (pad.beginsAct(i)) {
+                int number = pad.numberOfAct(i);
+                answer = pad.isWithdrawal(i) ? withdraw(number) : result(number, pad.sideOfAct(i));
+                done += answer >= 0 ? 1 : 0;
+            }
         }
         pad.clear();
         return done;
@@ -978,6 +978,10 @@ public final class TwoLives {
 
         // The acts are asked for only while the pad has no fault.
 
+        boolean beginsAct(int index) {
+            return index == 0 || signAt(index - 1) == ',';
+        }
+
         boolean isWithdrawal(int start) {
             return signAt(start) == 'w';
         }
@@ -991,16 +995,11 @@ public final class TwoLives {
         }
 
         int sideOfAct(int start) {
-            return signAt(endOfAct(start) - 1) == 'a' ? 0 : 1;
-        }
-
-        /** The index behind the last character of the act that begins at start. */
-        int endOfAct(int start) {
             int end = start;
-            while (end < length && signAt(end) != ',') {
+            while (end < length && isDigit(signAt(end))) {
                 end++;
             }
-            return end;
+            return signAt(end) == 'a' ? 0 : 1;
         }
     }
 }
