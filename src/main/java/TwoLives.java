@@ -72,7 +72,7 @@ public final class TwoLives {
         if (!live.plan.hasPlayer(player)) {
             return NO_SUCH;
         }
-        if (live.isGone(player) || live.nextMatch(player) == NONE) {
+        if (live.isGone(player) || live.hasPlace(player)) {
             return NOT_POSSIBLE;
         }
         int act = History.withdrawalAct(player);
@@ -169,7 +169,7 @@ public final class TwoLives {
         if (!live.plan.hasPlayer(player)) {
             return NO_SUCH;
         }
-        boolean beaten = live.nextMatch(player) == NONE && live.champion() != player;
+        boolean beaten = live.hasPlace(player) && live.champion() != player;
         if (live.isGone(player) || beaten) {
             return NOT_POSSIBLE;
         }
@@ -195,12 +195,10 @@ public final class TwoLives {
         if (one == other) {
             return BAD_VALUE;
         }
-        int here = live.nextMatch(one);
-        int there = live.nextMatch(other);
-        if (live.isGone(one) || live.isGone(other) || here == NONE || there == NONE) {
+        if (live.isGone(one) || live.isGone(other) || live.hasPlace(one) || live.hasPlace(other)) {
             return NONE;
         }
-        return live.plan.commonMatch(here, there);
+        return live.plan.commonMatch(live.nextMatch(one), live.nextMatch(other));
     }
 
     // ---- texts
@@ -328,7 +326,7 @@ public final class TwoLives {
     private int placedPlayers() {
         int many = 0;
         for (int p = 0; p < live.plan.players; p++) {
-            if (live.nextMatch(p) == NONE) {
+            if (live.hasPlace(p)) {
                 many++;
             }
         }
@@ -344,7 +342,7 @@ public final class TwoLives {
         int lives = 0;
         boolean unbeaten = false;
         for (int p = 0; p < live.plan.players; p++) {
-            if (!live.isGone(p) && live.nextMatch(p) != NONE) {
+            if (!live.isGone(p) && !live.hasPlace(p)) {
                 int losses = live.losses(p);
                 rivals++;
                 lives += 2 - losses;
@@ -756,6 +754,11 @@ public final class TwoLives {
             return NONE;
         }
 
+        // Whoever has no match to come is out of the lower bracket or has been in the last final.
+        boolean hasPlace(int player) {
+            return nextMatch(player) == NONE;
+        }
+
         int champion() {
             int second = winner(plan.secondFinal());
             if (second != NONE) {
@@ -774,7 +777,7 @@ public final class TwoLives {
         }
 
         private int place(int player, int[] lowerPlaces) {
-            if (nextMatch(player) != NONE) {
+            if (!hasPlace(player)) {
                 return NONE;
             }
             for (int m = 0; m < plan.matches; m++) {

@@ -96,6 +96,7 @@ final class UndoTest {
         due("restore(0)", -5, x.restore(0));
         x.setUp(16, 0);
         x.rate(3, 88);
+        play("7a,w6,4b");
         Check.putAll(x, "w1,w2");
         due("restore(1)", 1, x.restore(1));
         int[] due = {5, 8, 15, 1, 1};
@@ -106,6 +107,8 @@ final class UndoTest {
         due("no player 5", -1, x.player(5, 0));
         due("withdrawn", 1, x.player(0, 3));
         due("cross", 10, x.match(4, 9));
+        due("winner of match 1", 4, x.match(1, 2));
+        due("match 3 is a bye's", 1, x.match(3, 4));
         due("the pad is not restored", 5, x.count(12));
     }
 
