@@ -42,4 +42,10 @@ final class Check {
         }
         return answer;
     }
+
+    /** Carries out acts, none of which may fail. */
+    static void play(TwoLives x, String acts) {
+        putAll(x, acts);
+        due("carryOut of " + acts, acts.split(",").length, x.carryOut());
+    }
 }

@@ -24,8 +24,7 @@ final class ForecastTest {
     }
 
     private static void play(String acts) {
-        Check.putAll(x, acts);
-        due("carryOut of " + acts, acts.split(",").length, x.carryOut());
+        Check.play(x, acts);
     }
 
     private static void forecast() {

@@ -36,8 +36,7 @@ final class TournamentTest {
     }
 
     private static void play(String acts) {
-        Check.putAll(x, acts);
-        due("carryOut of " + acts, acts.split(",").length, x.carryOut());
+        Check.play(x, acts);
     }
 
     private static void newObject() {
