@@ -289,23 +289,29 @@ public final class TwoLives {
         live.clear();
     }
 
+    /** Carries out an act, and returns how many matches are decided by it. */
     private int perform(int act) {
+        int before = live.decidedMatches();
+        enter(act);
+        live.settle();
+        return live.decidedMatches() - before;
+    }
+
+    private void enter(int act) {
         if (History.isResult(act)) {
             int seat = History.seatOf(act);
-            live.decide(matchOfSeat(seat), sideOfSeat(seat), BY_RESULT);
+            live.enterResult(matchOfSeat(seat), sideOfSeat(seat));
         } else {
             live.letGo(History.playerOf(act));
         }
-        return live.settle();
     }
 
-    // A walkover stands even if its winner withdraws later, so who withdrew first
-    // matters: the state is made anew from the acts in their order.
     private void replay() {
         live.clear();
         for (int i = 0; i < history.length; i++) {
-            perform(history.act(i));
+            enter(history.act(i));
         }
+        live.settle();
     }
 
     private int whereNext(int player) {
@@ -333,10 +339,10 @@ public final class TwoLives {
         return many;
     }
 
-    // A player who has withdrawn loses only by walkovers, and players who have not
-    // withdrawn lose only to one another, by results. So the results to come are as
-    // many as the lives that these will lose: all but what the champion keeps, two
-    // lives (only for one who has not lost yet) or one.
+    // From now on, players who have withdrawn lose only by walkovers, and players who
+    // have not withdrawn lose only to one another, by results. So the results to come
+    // are as many as the lives that these will lose: all but what the champion keeps,
+    // two lives (only for one who has not lost yet) or one.
     private int resultsToCome(boolean most) {
         int rivals = 0;
         int lives = 0;
@@ -369,7 +375,8 @@ public final class TwoLives {
                 if (winning != favoured) {
                     upsets++;
                 }
-                trial.decide(m, winning, BY_RESULT);
+                trial.enterResult(m, winning);
+                trial.settleMatch(m);
             }
         }
         return upsets;
@@ -387,7 +394,7 @@ public final class TwoLives {
         }
         for (int i = 0; i < chosen; i++) {
             int m = at(turn, i);
-            trial.decide(m, favouredSide(m), BY_RESULT);
+            trial.enterResult(m, favouredSide(m));
         }
         trial.settle();
         return chosen > 0;
@@ -644,21 +651,18 @@ public final class TwoLives {
         }
     }
 
-    /** Who sits where, which matches are decided and how, and who has withdrawn. */
+    /** The results and who has withdrawn; and, made from both: who sits where, what is decided and how. */
     private static final class Bracket {
         final Plan plan = new Plan();
+        private final int[] results = new int[MOST_MATCHES];
+        private final int[] gone = new int[MOST_PLAYERS];
         private final int[] seats = new int[2 * MOST_MATCHES];
         private final int[] how = new int[MOST_MATCHES];
         private final int[] wonBy = new int[MOST_MATCHES];
-        private final int[] gone = new int[MOST_PLAYERS];
 
         void clear() {
-            for (int s = 0; s < 2 * MOST_MATCHES; s++) {
-                store(seats, s, s < plan.size ? plan.firstRoundPlayer(s) : NONE);
-            }
             for (int m = 0; m < MOST_MATCHES; m++) {
-                store(how, m, UNDECIDED);
-                store(wonBy, m, NONE);
+                store(results, m, NONE);
             }
             for (int p = 0; p < MOST_PLAYERS; p++) {
                 store(gone, p, 0);
@@ -668,10 +672,13 @@ public final class TwoLives {
 
         // The plan stays: both brackets of a tournament are always laid alike.
         void copyFrom(Bracket other) {
-            copy(other.seats, seats);
-            copy(other.how, how);
-            copy(other.wonBy, wonBy);
+            copy(other.results, results);
             copy(other.gone, gone);
+            settle();
+        }
+
+        void enterResult(int match, int side) {
+            store(results, match, side);
         }
 
         void letGo(int player) {
@@ -703,7 +710,40 @@ public final class TwoLives {
                     && plan.hasPlayer(sideOf(match, 0)) && plan.hasPlayer(sideOf(match, 1));
         }
 
-        void decide(int match, int side, int kind) {
+        // All matches are decided anew, since a walkover goes to the other side when its
+        // winner withdraws, too, and the players of all matches behind it change then.
+        // Winners and losers only go to matches with greater numbers, so one pass does it.
+        void settle() {
+            for (int s = 0; s < 2 * MOST_MATCHES; s++) {
+                store(seats, s, s < plan.size ? plan.firstRoundPlayer(s) : NONE);
+            }
+            for (int m = 0; m < MOST_MATCHES; m++) {
+                store(how, m, UNDECIDED);
+                store(wonBy, m, NONE);
+            }
+            for (int m = 0; m < plan.matches; m++) {
+                settleMatch(m);
+            }
+        }
+
+        /** Decides a match that is not decided, if it can be. */
+        void settleMatch(int match) {
+            int one = sideOf(match, 0);
+            int other = sideOf(match, 1);
+            if (howDecided(match) != UNDECIDED || one == NONE || other == NONE) {
+                return;
+            }
+            int result = at(results, match);
+            if (one == BYE || other == BYE) {
+                decide(match, other == BYE ? 0 : 1, BY_BYE);
+            } else if (result != NONE) {
+                decide(match, result, BY_RESULT);
+            } else if (isGone(one) || isGone(other)) {
+                decide(match, isGone(other) ? 0 : 1, BY_WALKOVER);
+            }
+        }
+
+        private void decide(int match, int side, int kind) {
             int winner = at(seats, seat(match, side));
             int loser = at(seats, seat(match, 1 - side));
             store(how, match, kind);
@@ -714,34 +754,6 @@ public final class TwoLives {
                 store(seats, seat(plan.secondFinal(), 0), loser);
                 store(seats, seat(plan.secondFinal(), 1), winner);
             }
-        }
-
-        int settle() {
-            int many = 0;
-            for (int m = 0; m < plan.matches; m++) {
-                if (settleMatch(m)) {
-                    many++;
-                }
-            }
-            return many;
-        }
-
-        /** Decides a match that needs no result, and tells whether it did. */
-        boolean settleMatch(int match) {
-            int one = sideOf(match, 0);
-            int other = sideOf(match, 1);
-            if (howDecided(match) != UNDECIDED || one == NONE || other == NONE) {
-                return false;
-            }
-            if (one == BYE || other == BYE) {
-                decide(match, other == BYE ? 0 : 1, BY_BYE);
-                return true;
-            }
-            if (isGone(one) || isGone(other)) {
-                decide(match, isGone(other) ? 0 : 1, BY_WALKOVER);
-                return true;
-            }
-            return false;
         }
 
         int nextMatch(int player) {
@@ -786,6 +798,10 @@ public final class TwoLives {
                 }
             }
             return champion() == player ? 1 : 2;
+        }
+
+        int decidedMatches() {
+            return plan.matches - decided(UNDECIDED);
         }
 
         int decided(int kind) {

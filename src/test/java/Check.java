@@ -48,4 +48,23 @@ final class Check {
         putAll(x, acts);
         due("carryOut of " + acts, acts.split(",").length, x.carryOut());
     }
+
+    /** All that count(), match() and player() tell. */
+    static String told(TwoLives x) {
+        StringBuilder all = new StringBuilder();
+        for (int what = 0; what < 14; what++) {
+            all.append(x.count(what)).append(' ');
+        }
+        for (int m = 0; m < x.count(2); m++) {
+            for (int what = 0; what < 5; what++) {
+                all.append(x.match(m, what)).append(' ');
+            }
+        }
+        for (int p = 0; p < x.count(0); p++) {
+            for (int what = 0; what < 9; what++) {
+                all.append(x.player(p, what)).append(' ');
+            }
+        }
+        return all.toString();
+    }
 }

@@ -135,32 +135,14 @@ final class ForecastTest {
         due("over", -6, x.meet(1, 0));
     }
 
-    private static String told() {
-        StringBuilder all = new StringBuilder();
-        for (int what = 0; what < 14; what++) {
-            all.append(x.count(what)).append(' ');
-        }
-        for (int m = 0; m < x.count(2); m++) {
-            for (int what = 0; what < 5; what++) {
-                all.append(x.match(m, what)).append(' ');
-            }
-        }
-        for (int p = 0; p < x.count(0); p++) {
-            for (int what = 0; what < 9; what++) {
-                all.append(x.player(p, what)).append(' ');
-            }
-        }
-        return all.toString();
-    }
-
     private static void nothingChanges() {
         fresh(11, 1);
         play("1a,5b,w5,8a");
-        String before = told();
+        String before = Check.told(x);
         x.forecast();
         x.upsets(8);
         x.sessions(3);
         x.meet(0, 1);
-        due("a forecast changes nothing", 1, before.equals(told()) ? 1 : 0);
+        due("a forecast changes nothing", 1, before.equals(Check.told(x)) ? 1 : 0);
     }
 }

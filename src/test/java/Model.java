@@ -4,7 +4,8 @@ import java.util.regex.Pattern;
 
 /**
  * The document once more, written another way: each side of a match names the match that it comes from,
- * every act is followed by looking for matches to settle until none is left, and a copy is a new object.
+ * every act is followed by looking, without any order, for matches to settle until none is left, and a copy
+ * is a new object. What is decided follows from the results and from who has withdrawn, and from nothing else.
  */
 final class Model {
     static final int BYE = 16, NO_SUCH = -1, BAD_VALUE = -2, BAD_TEXT = -3, TOO_MANY = -4, NOT_POSSIBLE = -5, NONE = -6;
@@ -34,6 +35,7 @@ final class Model {
     private final List<int[]> acts = new ArrayList<>();
     private final List<int[]> names = new ArrayList<>();
     private final List<Source[]> sources = new ArrayList<>();
+    private Integer[] results;
     private Decision[] decisions;
     private boolean[] gone;
     private String pad = "";
@@ -46,6 +48,7 @@ final class Model {
     private Model(Model other) {
         lay(other.n, other.cross);
         ratings = other.ratings.clone();
+        results = other.results.clone();
         decisions = other.decisions.clone();
         gone = other.gone.clone();
     }
@@ -60,7 +63,7 @@ final class Model {
     }
 
     private void reset() {
-        decisions = new Decision[names.size()];
+        results = new Integer[names.size()];
         gone = new boolean[16];
         settle();
     }
@@ -163,34 +166,49 @@ final class Model {
         return decision == null ? NONE : source.winner ? decision.winner : decision.loser;
     }
 
-    private int settle() {
-        int many = 0;
+    private void settle() {
+        decisions = new Decision[names.size()];
         boolean again = true;
         while (again) {
             again = false;
             for (int m = names.size() - 1; m >= 0; m--) {
-                int one = side(m, 0), other = side(m, 1);
-                if (decisions[m] != null || one == NONE || other == NONE) {
-                    continue;
+                if (decisions[m] == null) {
+                    decisions[m] = decision(side(m, 0), side(m, 1), results[m]);
+                    again = again || decisions[m] != null;
                 }
-                if (one == BYE || other == BYE) {
-                    decisions[m] = other == BYE ? new Decision(one, other, 1) : new Decision(other, one, 1);
-                } else if (gone[other]) {
-                    decisions[m] = new Decision(one, other, 2);
-                } else if (gone[one]) {
-                    decisions[m] = new Decision(other, one, 2);
-                } else {
-                    continue;
-                }
-                many++;
-                again = true;
             }
         }
-        return many;
+    }
+
+    private Decision decision(int one, int other, Integer result) {
+        if (one == NONE || other == NONE) {
+            return null;
+        }
+        if (one == BYE || other == BYE) {
+            return other == BYE ? new Decision(one, other, 1) : new Decision(other, one, 1);
+        }
+        if (result == null && gone[one] && gone[other]) {
+            return new Decision(one, other, 2);
+        }
+        if (result == null && (gone[one] || gone[other])) {
+            return gone[one] ? new Decision(other, one, 2) : new Decision(one, other, 2);
+        }
+        if (result == null) {
+            return null;
+        }
+        return result == 0 ? new Decision(one, other, 3) : new Decision(other, one, 3);
     }
 
     private void win(int m, int player) {
-        decisions[m] = new Decision(player, side(m, 0) == player ? side(m, 1) : side(m, 0), 3);
+        results[m] = side(m, 0) == player ? 0 : 1;
+    }
+
+    private int undecided() {
+        int many = 0;
+        for (Decision decision : decisions) {
+            many += decision == null ? 1 : 0;
+        }
+        return many;
     }
 
     private List<Integer> opens() {
@@ -365,8 +383,10 @@ final class Model {
             return NOT_POSSIBLE;
         }
         acts.add(new int[] {p});
+        int before = undecided();
         gone[p] = true;
-        return settle();
+        settle();
+        return before - undecided();
     }
 
     int match(int m, int what) {

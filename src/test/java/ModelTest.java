@@ -71,8 +71,7 @@ final class ModelTest {
             case 2:
             case 3:
                 if (random.nextInt(4) < withdrawals) {
-                    int player = somePlayer();
-                    same("withdraw(" + player + ")", model.withdraw(player), real.withdraw(player));
+                    withdraw(somePlayer());
                 }
                 break;
             case 4:
@@ -97,6 +96,18 @@ final class ModelTest {
                 int side = number(2);
                 same("result(" + match + ", " + side + ")", model.result(match, side), real.result(match, side));
                 break;
+        }
+    }
+
+    /** A withdrawal may change who stands in a match that is decided, but not that it is decided. */
+    private void withdraw(int player) {
+        boolean[] decided = new boolean[real.count(2)];
+        for (int m = 0; m < decided.length; m++) {
+            decided[m] = real.match(m, 4) > 0;
+        }
+        same("withdraw(" + player + ")", model.withdraw(player), real.withdraw(player));
+        for (int m = 0; m < decided.length; m++) {
+            same("match(" + m + ", 4), decided still", 1, !decided[m] || real.match(m, 4) > 0 ? 1 : 0);
         }
     }
 
@@ -194,7 +205,27 @@ final class ModelTest {
         same("meet(" + one + ", " + other + ")", model.meet(one, other), real.meet(one, other));
     }
 
+    /** What the document asks of each match as things stand, whatever was done before. */
+    private void decidedAsThingsStand() {
+        for (int m = 0; m < real.count(2); m++) {
+            int one = real.match(m, 0), other = real.match(m, 1), how = real.match(m, 4);
+            String name = "how match " + m + " is decided";
+            if (one == TwoLives.NONE || other == TwoLives.NONE) {
+                same(name + ", a side is not known", 0, how);
+            } else if (one == TwoLives.BYE || other == TwoLives.BYE) {
+                same(name + ", a bye", 1, how);
+                same("winner of match " + m + ", a bye", other == TwoLives.BYE ? one : other, real.match(m, 2));
+            } else if (how != 3) {
+                boolean oneGone = real.player(one, 3) == 1, otherGone = real.player(other, 3) == 1;
+                same(name + ", no result", oneGone || otherGone ? 2 : 0, how);
+                same("winner of match " + m + ", no result",
+                        otherGone ? one : oneGone ? other : TwoLives.NONE, real.match(m, 2));
+            }
+        }
+    }
+
     private void everything() {
+        decidedAsThingsStand();
         for (int m = -1; m <= model.count(2); m++) {
             for (int what = -1; what <= 12; what++) {
                 match(m, what);

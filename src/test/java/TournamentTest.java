@@ -12,8 +12,11 @@ final class TournamentTest {
         rate();
         result();
         withdraw();
-        walkoversStand();
+        bothHaveWithdrawn();
+        withdrawnBehindResults();
+        withdrawnInTheSecondFinal();
         withdrawnPlayersMeet();
+        orderOfWithdrawals();
         waysOfEight();
         waysOfSixteen();
         matchesWithByes();
@@ -156,17 +159,89 @@ final class TournamentTest {
         due("withdraw(0), the first", -5, x.withdraw(0));
     }
 
-    private static void walkoversStand() {
-        fresh(4, 0);
-        due("withdraw(0)", 1, x.withdraw(0));
-        due("withdraw(3)", 0, x.withdraw(3));
-        due("the walkover stands", 3, x.match(0, 2));
+    private static void bothHaveWithdrawn() {
+        x = new TwoLives();
+        due("withdraw(3)", 1, x.withdraw(3));
+        due("4 wins", 4, x.match(1, 2));
+        due("withdraw(4), who has won the same match", 0, x.withdraw(4));
+        due("side 0 wins", 3, x.match(1, 2));
+        due("side 1 loses", 4, x.match(1, 3));
+        due("by a walkover", 2, x.match(1, 4));
         due("wins of 3", 1, x.player(3, 1));
         due("losses of 3", 0, x.player(3, 2));
-        due("losses of 0", 1, x.player(0, 2));
+        due("wins of 4", 0, x.player(4, 1));
+        due("losses of 4", 1, x.player(4, 2));
+        due("3 goes on", 3, x.match(4, 1));
+        due("4 goes down", 4, x.match(7, 1));
+        due("next of 3", 4, x.player(3, 5));
+        due("next of 4", 7, x.player(4, 5));
         due("undo()", 1, x.undo());
-        due("withdrawn 3", 0, x.player(3, 3));
-        due("withdrawn 0", 1, x.player(0, 3));
+        due("4 wins again", 4, x.match(1, 2));
+        due("withdrawn 4", 0, x.player(4, 3));
+        due("withdrawn 3", 1, x.player(3, 3));
+        x = new TwoLives();
+        due("withdraw(4)", 1, x.withdraw(4));
+        due("withdraw(3), the winner on side 0", 0, x.withdraw(3));
+        due("side 0 wins, too", 3, x.match(1, 2));
+        x = new TwoLives();
+        play("1b,w3,w4");
+        due("but not against a result", 4, x.match(1, 2));
+    }
+
+    /** 4 wins by a walkover and plays on; when it withdraws, too, 3 stands where it stood. */
+    private static void withdrawnBehindResults() {
+        x = new TwoLives();
+        play("w3,0a,4b");
+        due("winner of match 4", 4, x.match(4, 2));
+        due("place of 3", 7, x.player(3, 6));
+        due("last place of 3", 8, x.player(3, 7));
+        due("save(0)", 2, x.save(0));
+        due("withdraw(4)", 0, x.withdraw(4));
+        due("3 stands in match 4", 3, x.match(4, 1));
+        due("whose result stays", 3, x.match(4, 2));
+        due("0 has lost it", 0, x.match(4, 3));
+        due("how", 3, x.match(4, 4));
+        due("results", 2, x.count(4));
+        due("walkovers", 2, x.count(5));
+        due("3 waits in the upper bracket", 6, x.player(3, 5));
+        due("3 has no place", -6, x.player(3, 6));
+        due("4 has met 7 in the lower bracket", 4, x.match(7, 1));
+        due("place of 4", 7, x.player(4, 6));
+        due("last place of 4", 8, x.player(4, 7));
+        due("played of 0", 2, x.player(0, 8));
+        due("withdraw(4) again", -5, x.withdraw(4));
+        due("results that are saved", 2, x.restore(0));
+        due("4 stands in match 4", 4, x.match(4, 1));
+        due("4 waits in the upper bracket", 6, x.player(4, 5));
+        due("withdraw(4) behind restore()", 0, x.withdraw(4));
+        due("3 stands in match 4 again", 3, x.match(4, 1));
+        due("save(0)", 2, x.save(0));
+        x.setUp(2, 0);
+        due("restored", 2, x.restore(0));
+        due("3 stands there then", 3, x.match(4, 2));
+        due("undo()", 3, x.undo());
+        due("and 4 after undo()", 4, x.match(4, 2));
+    }
+
+    private static void withdrawnInTheSecondFinal() {
+        fresh(4, 0);
+        play("w0,1a,2a,4b,5b");
+        due("3 against 1", 3, x.match(6, 0));
+        due("place of 0", 4, x.player(0, 6));
+        due("withdraw(3)", 1, x.withdraw(3));
+        due("0 stands in the second final", 0, x.match(6, 0));
+        due("champion", 1, x.count(8));
+        int[] places = {2, 1, 3, 4};
+        int[] wins = {2, 4, 1, 0};
+        for (int p = 0; p < 4; p++) {
+            due("place of " + p, places[p], x.player(p, 7));
+            due("wins of " + p, wins[p], x.player(p, 1));
+        }
+        due("walkovers", 3, x.count(5));
+        due("undo()", 5, x.undo());
+        due("3 stands there", 3, x.match(6, 0));
+        due("least", 1, x.count(10));
+        due("greatest", 1, x.count(11));
     }
 
     private static void withdrawnPlayersMeet() {
@@ -174,17 +249,37 @@ final class TournamentTest {
         x.withdraw(0);
         x.withdraw(3);
         due("withdraw(1)", 5, x.withdraw(1));
-        due("side 0 wins", 0, x.match(3, 2));
-        due("side 0 wins again", 0, x.match(4, 2));
+        due("side 0 wins", 3, x.match(3, 2));
+        due("side 0 wins again", 3, x.match(4, 2));
         due("champion", 2, x.count(8));
         due("walkovers", 6, x.count(5));
         due("no second final", -6, x.match(6, 0));
-        int[] places = {2, 4, 1, 3};
+        int[] places = {3, 4, 1, 2};
         for (int p = 0; p < 4; p++) {
             due("place of " + p, places[p], x.player(p, 6));
         }
-        due("wins of 0", 2, x.player(0, 1));
-        due("played of 0", 0, x.player(0, 8));
+        due("wins of 3", 2, x.player(3, 1));
+        due("wins of 0", 1, x.player(0, 1));
+        due("played of 3", 0, x.player(3, 8));
+    }
+
+    /** How things stand does not depend on who withdrew first. */
+    private static void orderOfWithdrawals() {
+        for (int n = 2; n <= 16; n++) {
+            for (int stay = 0; stay < n; stay++) {
+                fresh(n, n % 2);
+                for (int p = 0; p < n; p++) {
+                    due("withdraw(" + p + ") of " + n, 1, p == stay || x.withdraw(p) >= 0 ? 1 : 0);
+                }
+                String upwards = Check.told(x);
+                fresh(n, n % 2);
+                for (int p = n - 1; p >= 0; p--) {
+                    due("withdraw(" + p + ") of " + n, 1, p == stay || x.withdraw(p) >= 0 ? 1 : 0);
+                }
+                due("champion of " + n, stay, x.count(8));
+                due("the order of withdrawals of " + n, 1, upwards.equals(Check.told(x)) ? 1 : 0);
+            }
+        }
     }
 
     private static void row(String name, int what, int first, int... due) {
@@ -378,8 +473,8 @@ final class TournamentTest {
         fresh(4, 0);
         x.withdraw(0);
         x.withdraw(3);
-        bounds("3 will come to the final by nothing", 2, 3);
+        bounds("1 and 2 play on alone", 2, 3);
         play("1a");
-        bounds("1 has beaten 2, and 3 by a walkover", 1, 2);
+        bounds("1 has beaten 2, and 0 by a walkover", 1, 2);
     }
 }
