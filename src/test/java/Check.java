@@ -34,13 +34,31 @@ final class Check {
         return characters;
     }
 
-    /** Puts a text of any length on the pad, and returns the answer of the last put(). */
-    static int putAll(TwoLives x, String text) {
-        int answer = 0;
+    /** Puts a text of any length on the pad, and returns the object. */
+    static TwoLives putAll(TwoLives x, String text) {
         for (int i = 0; i < text.length(); i += 8) {
-            answer = x.put(packed(text.substring(i, Math.min(i + 8, text.length()))));
+            x.put(packed(text.substring(i, Math.min(i + 8, text.length()))));
         }
-        return answer;
+        return x;
+    }
+
+    /** Enters acts one by one by result() and withdraw(), without the pad; none of them may fail. */
+    static void enter(TwoLives x, String acts) {
+        for (String act : acts.split(",")) {
+            int number = Integer.parseInt(act.replaceAll("[abw]", ""));
+            int answer = act.startsWith("w") ? x.withdraw(number) : x.result(number, act.endsWith("a") ? 0 : 1);
+            due(act + " of " + acts + " is taken", 1, answer >= 0 ? 1 : 0);
+        }
+    }
+
+    /** A tournament in which acts have been entered one by one. */
+    static TwoLives entered(int players, int cross, String acts) {
+        TwoLives x = new TwoLives();
+        due("setUp(" + players + ", " + cross + ") is taken", 1, x.setUp(players, cross) > 0 ? 1 : 0);
+        if (!acts.isEmpty()) {
+            enter(x, acts);
+        }
+        return x;
     }
 
     /** Carries out acts, none of which may fail. */

@@ -139,6 +139,8 @@ final class ForecastTest {
         fresh(11, 1);
         play("1a,5b,w5,8a");
         String before = Check.told(x);
+        fresh(11, 1);
+        play("1a,5b,w5,8a");
         x.forecast();
         x.upsets(8);
         x.sessions(3);

@@ -1,14 +1,24 @@
+import java.util.ArrayList;
+import java.util.List;
 import java.util.Random;
+import java.util.function.ToIntFunction;
 
-/** Random runs of calls on TwoLives and on the model of the document: all answers have to be the same. */
+/**
+ * Random runs of calls on TwoLives and on the model of the document: all answers have to be the same.
+ * Nothing is promised of an object after 512 calls: so a run ends before, and everything is asked of copies,
+ * new objects that have had the same changes, each of them a part.
+ */
 final class ModelTest {
-    private static final int RUNS = 400;
-    private static final int CALLS = 512;
+    private static final int RUNS = 500;
+    private static final int CALLS = 500;
+    private static final int CHANGES = 180;
     private static final int[] ODD = {-1, -6, Integer.MIN_VALUE, Integer.MAX_VALUE, 31, 16, 17, 12, 14, 9, 2, -7};
 
     private final Random random;
-    private final TwoLives real = new TwoLives();
     private final Model model = new Model();
+    private final List<ToIntFunction<TwoLives>> changes = new ArrayList<>();
+    private TwoLives real = new TwoLives();
+    private int calls = 0;
     private final String run;
     private final int withdrawals;
 
@@ -26,7 +36,7 @@ final class ModelTest {
     }
 
     private void play() {
-        for (int i = 0; i < CALLS && !Check.failed(); i++) {
+        while (calls < CALLS && changes.size() < CHANGES && !Check.failed()) {
             if (random.nextInt(60) == 0) {
                 everything();
             } else if (random.nextInt(3) == 0) {
@@ -51,7 +61,21 @@ final class ModelTest {
     }
 
     private void same(String call, int want, int got) {
+        calls++;
         Check.due(run + call, want, got);
+    }
+
+    private void changed(String call, int want, ToIntFunction<TwoLives> change) {
+        changes.add(change);
+        same(call, want, change.applyAsInt(real));
+    }
+
+    private TwoLives copy() {
+        TwoLives copy = new TwoLives();
+        for (ToIntFunction<TwoLives> change : changes) {
+            change.applyAsInt(copy);
+        }
+        return copy;
     }
 
     private void change() {
@@ -60,13 +84,13 @@ final class ModelTest {
                 int players = number(15) + 2;
                 int cross = number(2);
                 if (random.nextInt(3) == 0) {
-                    same("setUp(" + players + ", " + cross + ")", model.setUp(players, cross), real.setUp(players, cross));
+                    changed("setUp(" + players + ", " + cross + ")", model.setUp(players, cross), x -> x.setUp(players, cross));
                 }
                 break;
             case 1:
                 int rated = somePlayer();
                 int rating = random.nextInt(8) == 0 ? random.nextInt(12000) - 1000 : 1400 + 10 * random.nextInt(12);
-                same("rate(" + rated + ", " + rating + ")", model.rate(rated, rating), real.rate(rated, rating));
+                changed("rate(" + rated + ", " + rating + ")", model.rate(rated, rating), x -> x.rate(rated, rating));
                 break;
             case 2:
             case 3:
@@ -79,50 +103,48 @@ final class ModelTest {
                 text();
                 break;
             case 6:
-                same("undo()", model.undo(), real.undo());
+                changed("undo()", model.undo(), x -> x.undo());
                 break;
             case 7:
                 int slot = number(2);
-                same("save(" + slot + ")", model.save(slot), real.save(slot));
+                changed("save(" + slot + ")", model.save(slot), x -> x.save(slot));
                 break;
             case 8:
                 int source = number(2);
                 if (random.nextInt(3) == 0) {
-                    same("restore(" + source + ")", model.restore(source), real.restore(source));
+                    changed("restore(" + source + ")", model.restore(source), x -> x.restore(source));
                 }
                 break;
             default:
                 int match = someMatch();
                 int side = number(2);
-                same("result(" + match + ", " + side + ")", model.result(match, side), real.result(match, side));
+                changed("result(" + match + ", " + side + ")", model.result(match, side), x -> x.result(match, side));
                 break;
         }
     }
 
     /** A withdrawal may change who stands in a match that is decided, but not that it is decided. */
     private void withdraw(int player) {
-        boolean[] decided = new boolean[real.count(2)];
+        boolean[] decided = new boolean[model.count(2)];
         for (int m = 0; m < decided.length; m++) {
-            decided[m] = real.match(m, 4) > 0;
+            decided[m] = model.match(m, 4) > 0;
         }
-        same("withdraw(" + player + ")", model.withdraw(player), real.withdraw(player));
+        changed("withdraw(" + player + ")", model.withdraw(player), x -> x.withdraw(player));
         for (int m = 0; m < decided.length; m++) {
-            same("match(" + m + ", 4), decided still", 1, !decided[m] || real.match(m, 4) > 0 ? 1 : 0);
+            Check.due(run + "match(" + m + ", 4), decided still", 1, !decided[m] || model.match(m, 4) > 0 ? 1 : 0);
         }
     }
 
     private void text() {
         if (random.nextInt(6) == 0) {
-            same("wipe()", model.wipe(), real.wipe());
+            changed("wipe()", model.wipe(), x -> x.wipe());
         }
-        long characters = random.nextInt(4) == 0 ? Check.packed(signs()) : Check.packed(act());
-        if (random.nextInt(10) == 0) {
-            characters ^= 1L << random.nextInt(64);
-        }
-        same("put(" + characters + "L)", model.put(characters), real.put(characters));
+        long signs = random.nextInt(4) == 0 ? Check.packed(signs()) : Check.packed(act());
+        long characters = random.nextInt(10) == 0 ? signs ^ 1L << random.nextInt(64) : signs;
+        changed("put(" + characters + "L)", model.put(characters), x -> x.put(characters));
         same("fault()", model.fault(), real.fault());
         if (random.nextBoolean()) {
-            same("carryOut()", model.carryOut(), real.carryOut());
+            changed("carryOut()", model.carryOut(), x -> x.carryOut());
         }
     }
 
@@ -224,22 +246,55 @@ final class ModelTest {
         }
     }
 
+    /** Each part is asked of a new copy. */
     private void everything() {
+        int callsBefore = calls;
+        TwoLives realOne = real;
+        real = copy();
         decidedAsThingsStand();
+        real = copy();
+        allMatches(-1, 5);
+        real = copy();
+        allMatches(6, 12);
+        real = copy();
+        allPlayers();
+        int half = model.count(0) / 2;
+        real = copy();
+        allMeetings(-1, half);
+        real = copy();
+        allMeetings(half + 1, model.count(0));
+        real = copy();
+        allElse();
+        real = realOne;
+        calls = callsBefore;
+    }
+
+    private void allMatches(int first, int last) {
         for (int m = -1; m <= model.count(2); m++) {
-            for (int what = -1; what <= 12; what++) {
+            for (int what = first; what <= last; what++) {
                 match(m, what);
             }
         }
+    }
+
+    private void allPlayers() {
         for (int p = -1; p <= model.count(0); p++) {
             for (int what = -1; what <= 9; what++) {
                 player(p, what);
             }
             upsets(p);
+        }
+    }
+
+    private void allMeetings(int first, int last) {
+        for (int one = first; one <= last; one++) {
             for (int other = -1; other <= model.count(0); other++) {
-                meet(p, other);
+                meet(one, other);
             }
         }
+    }
+
+    private void allElse() {
         for (int i = -1; i <= 14; i++) {
             open(i);
             count(i);
