@@ -317,21 +317,23 @@ final class Model {
         return bounds;
     }
 
-    /** Any tournament from here on is as long as the longest, or shorter by one. */
-    private int anyLength() {
+    /** How many results there are if the final is won by a side, and all else goes as forecast. */
+    private int length(int sideOfTheFinal) {
         Model trial = new Model(this);
         int results = 0;
         while (!trial.opens().isEmpty()) {
-            trial.win(trial.opens().get(0), trial.better(trial.opens().get(0)));
+            int m = trial.opens().get(0);
+            boolean isFinal = m == names.size() - 2;
+            trial.win(m, isFinal ? trial.side(m, sideOfTheFinal) : trial.better(m));
             trial.settle();
             results++;
         }
         return results;
     }
 
-    /** NONE if there is too much to try out. */
-    int resultsToCome(int which) {
-        return anyLength() > 8 ? NONE : tryAll()[which];
+    /** All is tried out if it is not too much; otherwise both differ by who wins the final. */
+    private int resultsToCome(int which) {
+        return length(1) > 8 ? length(which) : tryAll()[which];
     }
 
     int setUp(int players, int crossing) {
@@ -470,7 +472,6 @@ final class Model {
         return many;
     }
 
-    /** All but 10 and 11, for which see resultsToCome. */
     int count(int what) {
         switch (what) {
             case 0:
@@ -497,6 +498,9 @@ final class Model {
                     placed += hasPlace(p) ? 1 : 0;
                 }
                 return placed;
+            case 10:
+            case 11:
+                return resultsToCome(what - 10);
             case 12:
                 return pad.length();
             case 13:

@@ -208,11 +208,7 @@ final class ModelTest {
     }
 
     private void count(int what) {
-        if (what != 10 && what != 11) {
-            same("count(" + what + ")", model.count(what), real.count(what));
-        } else if (model.resultsToCome(0) != Model.NONE) {
-            same("count(" + what + ")", model.resultsToCome(what - 10), real.count(what));
-        }
+        same("count(" + what + ")", model.count(what), real.count(what));
     }
 
     private void upsets(int player) {
